@@ -541,7 +541,7 @@ public final class ChordRings {
             return numbers.rest(a * m.a + b * m.b + c * m.c + 2 * (d * m.d + e * m.e + f * m.f));
         }
 
-        int size() {
+        int wholeDeterminant() {
             return numbers.rest(a * (b * c - d * d) + f * (d * e - c * f) + e * (d * f - b * e));
         }
     }
@@ -556,10 +556,10 @@ public final class ChordRings {
         }
 
         void take(Form outer, Form outerCofactors, Form inner, Form innerCofactors) {
-            c0 = inner.size();
+            c0 = inner.wholeDeterminant();
             c1 = innerCofactors.against(outer);
             c2 = outerCofactors.against(inner);
-            c3 = outer.size();
+            c3 = outer.wholeDeterminant();
         }
 
         int part(int i) {

@@ -10,6 +10,12 @@ import java.util.Random;
  */
 public final class OracleTest {
     private static final int NONE = -6;
+    // The pairs whose answers PromisesTest has written out.
+    private static final int[][][] FIXED = {
+        {{5}, {0, 4, 0, 0, 4, 2}, {0, 3, 2, 4, 2, 0}},
+        {{5}, {0, 1, 1, 2, 0, 3}, {2, 3, 1, 1, 0, 0}},
+        {{199}, {1, 1, 198, 0, 0, 0}, {3, 5, 180, 1, 2, 7}},
+    };
     private static int wrong = 0;
     private static long asked = 0;
     private static String pair = "";
@@ -31,6 +37,9 @@ public final class OracleTest {
         int[] small = {5, 7, 11, 13, 17, 19, 23};
         int[] large = {31, 61, 97, 101, 127, 151, 193, 197, 199};
         int goodOnes = 0;
+        for (int[][] pair : FIXED) {
+            goodOnes += compare(pair[0][0], pair[1], pair[2], random);
+        }
         for (int p : small) {
             // Rounds with many noughts bring the edges: points at z 0, rounds that share points, levels through them.
             for (int n = 0; n < 60; n++) {
