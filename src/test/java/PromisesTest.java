@@ -449,6 +449,11 @@ public final class PromisesTest {
         due("least() of rings of 205", longOne().least(), NONE);
         ChordRings three = pair(5, new int[] {0, 1, 1, 2, 0, 3}, new int[] {2, 3, 1, 1, 0, 0});
         due("least() of rings of 3", three.least(), 3);
+        ChordRings last = pair(23, new int[] {2, 3, 6, 20, 22, 15}, new int[] {0, 13, 19, 1, 6, 5});
+        due("least() of rings of 31", last.least(), 31);
+        ChordRings beyond = pair(23, new int[] {5, 20, 15, 15, 1, 9}, new int[] {20, 0, 5, 10, 1, 8});
+        due("least() of rings of 32", beyond.least(), NONE);
+        due("order() of rings of 32", beyond.order(), 32);
         due("least() without a good pair", new ChordRings().least(), NO);
     }
 
