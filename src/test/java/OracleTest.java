@@ -5,8 +5,8 @@ import java.util.List;
 import java.util.Random;
 
 /**
- * Asks ChordRings everything about many pairs of rounds, and a plain model of the document, which only
- * searches and never solves, the same; says every answer that differs.
+ * Asks ChordRings everything about many pairs of rounds, and a plain model of the document, which shares no way
+ * of working with it and mostly searches, the same; says every answer that differs.
  */
 public final class OracleTest {
     private static final int NONE = -6;
@@ -292,7 +292,7 @@ public final class OracleTest {
         }
     }
 
-    /** The document's words, by search alone. */
+    /** The document's words, by search wherever that is quick enough. */
     private static final class Plain {
         final int p;
         final int[] outer, inner;
