@@ -854,12 +854,12 @@ public final class ChordRings {
         private int walkRing(int first, int start) {
             int end = start;
             int flag = first;
-            do {
+            while (end < flagCount && (end == start || flag != first)) {
                 walk[end] = flag;
                 places[flag] = end;
                 end++;
                 flag = nexts[flag];
-            } while (flag != first && end < flagCount);
+            }
             for (int place = start; place < end; place++) {
                 ringStarts[walk[place]] = start;
                 ringSizes[walk[place]] = end - start;
