@@ -11,7 +11,7 @@ public final class EdgesTest {
 
     /** Over 5: 6 POINTS, the last one of the plane among them; 8 FLAGS in two rings of 4. */
     private static final int[][] EDGES = {{5}, {0, 4, 0, 0, 4, 2}, {0, 3, 2, 4, 2, 0}};
-    /** Over 5: two POINTS with the same y, two with z 0; 9 FLAGS in one ring; THE CUBIC has no root among the NUMBERS. */
+    /** Over 5: two POINTS with the same y, two with z 0; 9 FLAGS in one ring; no NUMBER is a root of THE CUBIC. */
     private static final int[][] LEVELS = {{5}, {2, 1, 0, 1, 3, 4}, {0, 0, 1, 3, 0, 4}};
     /** Over 5: 3 FLAGS, the fewest that any PAIR has. */
     private static final int[][] FEWEST = {{5}, {1, 3, 4, 3, 2, 2}, {4, 3, 2, 4, 3, 0}};
@@ -450,7 +450,7 @@ public final class EdgesTest {
     }
 
     private static void linesThatTouchTheCurve() {
-        sentence("Three of its POINTS on one straight line make NOUGHT together (one counted twice where the line touches it)");
+        sentence("Three of its POINTS on one straight line .. (one counted twice where the line touches it)");
         ChordRings x = of(MOST);
         due("MOST multiple(2, 0)", x.multiple(2, 0), 194);
         due("MOST multiple(2, 1)", x.multiple(2, 1), 32);
@@ -599,9 +599,11 @@ public final class EdgesTest {
             bounds("round(#, 1, ..)", x, (y, n) -> roundWith(y, n, 0, 1), two(0, 1), two(1, 1), OUTSIDE);
             for (int place = 0; place < 6; place++) {
                 int at = place;
-                bounds("round(0, ..), # at " + at, x, (y, n) -> roundWith(y, 0, at, n), two(0, p - 1), two(1, 1), OUTSIDE);
+                bounds("round(0, ..), # at " + at, x, (y, n) -> roundWith(y, 0, at, n), two(0, p - 1), two(1, 1),
+                    OUTSIDE);
                 due("given(0, " + at + ")", x.given(0, at), p - 1);
-                bounds("round(1, ..), # at " + at, x, (y, n) -> roundWith(y, 1, at, n), two(0, p - 1), two(1, 1), OUTSIDE);
+                bounds("round(1, ..), # at " + at, x, (y, n) -> roundWith(y, 1, at, n), two(0, p - 1), two(1, 1),
+                    OUTSIDE);
                 due("given(1, " + at + ")", x.given(1, at), p - 1);
             }
             due("round(0, all 0)", take(x, 0, 0, 0, 0, 0, 0, 0), 1);
@@ -702,7 +704,7 @@ public final class EdgesTest {
     }
 
     private static void root() {
-        sentence("Promise 6: A square root of a NUMBER. OUTSIDE");
+        sentence("Promise 6: A square root of a NUMBER .. OUTSIDE");
         bounds("root(#)", over(5), (x, n) -> x.root(n), two(0, 4), two(0, 2), OUTSIDE);
         bounds("root(#)", new ChordRings(), (x, n) -> x.root(n), two(0, 6), two(0, NONE), OUTSIDE);
         bounds("root(#)", over(197), (x, n) -> x.root(n), two(0, 196), two(0, 14), OUTSIDE);
@@ -734,7 +736,7 @@ public final class EdgesTest {
     }
 
     private static void cubic() {
-        sentence("Promise 7: c0 to c3 (i 0 to 3); 4: the DISCRIMINANT. OUTSIDE");
+        sentence("Promise 7: c0 to c3 (i 0 to 3); 4: the DISCRIMINANT .. OUTSIDE");
         bounds("EDGES cubic(#)", of(EDGES), (x, n) -> x.cubic(n), two(0, 4), two(3, 3), OUTSIDE);
         bounds("MOST cubic(#)", of(MOST), (x, n) -> x.cubic(n), two(0, 4), two(85, 138), OUTSIDE);
         bounds("a new object's cubic(#)", new ChordRings(), (x, n) -> x.cubic(n), two(0, 4), two(6, 0), OUTSIDE);
@@ -875,13 +877,13 @@ public final class EdgesTest {
     }
 
     private static void flagOutside() {
-        sentence("Promise 14: 0 the number of its POINT .. 5 that ahead of one. OUTSIDE");
+        sentence("Promise 14: 0 the number of its POINT .. 5 that ahead of one .. OUTSIDE");
         bounds("EDGES flag(0, #)", of(EDGES), (x, n) -> x.flag(0, n), two(0, 5), two(0, 1), OUTSIDE);
         bounds("MOST flag(227, #)", of(MOST), (x, n) -> x.flag(227, n), two(0, 5), two(198, 115), OUTSIDE);
     }
 
     private static void goUnknown() {
-        sentence("Promise 15: The FLAG n STEPS on. UNKNOWN");
+        sentence("Promise 15: The FLAG n STEPS .. on. UNKNOWN");
         bounds("EDGES go(#, 1)", of(EDGES), (x, n) -> x.go(n, 1), two(0, 7), two(3, 6), UNKNOWN);
         bounds("FEWEST go(#, 0)", of(FEWEST), (x, n) -> x.go(n, 0), two(0, 2), two(0, 2), UNKNOWN);
         bounds("MOST go(#, 1)", of(MOST), (x, n) -> x.go(n, 1), two(0, 227), two(140, 157), UNKNOWN);
@@ -897,7 +899,7 @@ public final class EdgesTest {
     }
 
     private static void goRound() {
-        sentence("Promise 15: The FLAG n STEPS on (once round and further)");
+        sentence("Promise 15: The FLAG n STEPS .. on (once round and further)");
         for (int[][] pair : new int[][][] {FEWEST, EDGES, LEVELS, FULL, MOST, MANY_RINGS}) {
             ChordRings x = of(pair);
             int last = x.flags() - 1;
@@ -966,7 +968,7 @@ public final class EdgesTest {
     }
 
     private static void multiple() {
-        sentence("Promise 22: t (what = 0), y (1) of MULTIPLE(k), k 0 to 1000. OUTSIDE");
+        sentence("Promise 22: t (what = 0), y (1) of MULTIPLE(k), k 0 to 1000 .. OUTSIDE");
         bounds("MOST multiple(#, 0)", of(MOST), (x, n) -> x.multiple(n, 0), two(0, 1000), two(NONE, 82), OUTSIDE);
         bounds("MOST multiple(#, 1)", of(MOST), (x, n) -> x.multiple(n, 1), two(0, 1000), two(NONE, 146), OUTSIDE);
         bounds("MOST multiple(1000, #)", of(MOST), (x, n) -> x.multiple(1000, n), two(0, 1), two(82, 146), OUTSIDE);

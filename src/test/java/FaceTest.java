@@ -45,7 +45,8 @@ public final class FaceTest {
         for (String refusals : REFUSALS) {
             String[] words = refusals.split(" ");
             for (int n = 1; n < words.length; n++) {
-                check(seenRefusals.contains(words[0] + " " + words[n]), words[0] + " was never answered by " + words[n]);
+                String refusal = words[0] + " " + words[n];
+                check(seenRefusals.contains(refusal), "never answered: " + refusal);
             }
         }
         System.out.println(wrong == 0 ? "the face is as told" : wrong + " things are not as told");
