@@ -171,6 +171,7 @@ public final class OracleTest {
                 size++;
             }
             due(16, "ring(" + i + ")", ask(plain).ring(i), size);
+            due(16, "ring(" + i + "), all rings of a pair close alike", ask(plain).ring(i), ask(plain).order());
             if (!seen[i]) {
                 ringsLeft++;
                 int at = i;
@@ -219,7 +220,6 @@ public final class OracleTest {
             at = plain.addOne(at);
         }
         due(23, "order()", ask(plain).order(), order);
-        due(23, "order() as the ring", ask(plain).order(), ask(plain).ring(0));
         due(24, "curve()", ask(plain).curve(), plain.countCurve());
         due(24, "curve() as the flags", ask(plain).curve(), plain.flags.size());
     }
